@@ -580,11 +580,9 @@ public final class GapLocks {
     private static final class Script {
         int lines;
         int hands;
-        int keys;
         int steps;
+        final Shelf told = new Shelf();
         final int[] names = new int[MAX_HANDS];
-        final int[] keyBits = new int[MAX_TOLD];
-        final int[] keyValue = new int[MAX_TOLD];
         final int[] kind = new int[MAX_STEPS];
         final int[] hand = new int[MAX_STEPS];
         final int[] low = new int[MAX_STEPS];
@@ -594,8 +592,8 @@ public final class GapLocks {
         void clear() {
             lines = 0;
             hands = 0;
-            keys = 0;
             steps = 0;
+            told.size = 0;
         }
 
         int handNamed(int letters) {
@@ -608,12 +606,7 @@ public final class GapLocks {
         }
 
         boolean tellsKey(int key) {
-            for (int i = 0; i < keys; i++) {
-                if (keyBits[i] == key) {
-                    return true;
-                }
-            }
-            return false;
+            return told.hasAt(told.placeFrom(key), key);
         }
 
         void addHand(int letters) {
@@ -623,12 +616,8 @@ public final class GapLocks {
             }
         }
 
-        void addKey(int key, int keyWorth) {
-            if (keys < MAX_TOLD) {
-                keyBits[keys] = key;
-                keyValue[keys] = keyWorth;
-                keys++;
-            }
+        void addKey(int key, int worth) {
+            told.insert(told.placeFrom(key), key, worth);
         }
 
         void addStep(int stepKind, int stepHand, int first, int second, int worth) {
@@ -820,7 +809,7 @@ public final class GapLocks {
         }
 
         private boolean readKey() {
-            if (script.keys >= MAX_TOLD) {
+            if (script.told.size >= MAX_TOLD) {
                 return wrongAt(2, tokenPlace);
             }
             if (!readTwo()) {
@@ -886,14 +875,6 @@ public final class GapLocks {
         /** Who has the KEY shared or whole. */
         final int[] sharers = new int[MAX_KEYS];
         final int[] wholes = new int[MAX_KEYS];
-
-        void fill(Script script) {
-            size = 0;
-            gaps[0] = 0;
-            for (int i = 0; i < script.keys; i++) {
-                insert(placeFrom(script.keyBits[i]), script.keyBits[i], script.keyValue[i]);
-            }
-        }
 
         void copyFrom(Shelf other) {
             size = other.size;
@@ -1022,7 +1003,7 @@ public final class GapLocks {
             return -2;
         }
 
-        /** Whether some place, from one on to that behind the last KEY that isn't above another, has no GAP of others. */
+        /** Whether some place, from one on to that behind the last KEY not above another, has no GAP of others. */
         boolean leavesGap(int hand, int from, int lastKey) {
             for (int i = from; i <= size; i++) {
                 if ((gaps[i] & ~(1 << hand)) == 0) {
@@ -1250,7 +1231,7 @@ public final class GapLocks {
         private int needKey;
 
         void begin(Script script) {
-            shelf.fill(script);
+            shelf.copyFrom(script.told);
             crew.begin(script.hands);
             diary.length = 0;
             gapless = false;
