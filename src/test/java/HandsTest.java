@@ -235,6 +235,21 @@ final class HandsTest {
         c.x.quit(0);
         c.due("undone", c.x.count(1), 16);
         c.due("free again", c.x.put(1, 500, 1, 1), 17);
+        for (int i = 0; i < 7; i++) {
+            c.due("put", c.x.put(1, 501 + i, 1, 1), 18 + i);
+        }
+        c.x.open(0);
+        c.x.seek(0, 999, 1);
+        c.due("END's GAP of 24", c.x.lock(0, 24, 0), 1);
+        c.due("places", c.x.free(), (1 << 24) - 1);
+        c.due("all of them", c.x.phantoms(1, 5000001, 9000001), 1);
+        c.x.take();
+        c.x.end(0);
+        c.due("END's GAP is free", c.x.free(), (1 << 25) - 1);
+        c.x.back();
+        c.due("END's GAP isn't", c.x.free(), (1 << 24) - 1);
+        c.due("END is a's alone", c.x.phantoms(1, 9000001, 9000001), 1);
+        c.due("END is a's", c.x.phantoms(0, 9000001, 9000001), 0);
     }
 
     private static void vanishing() {
@@ -411,6 +426,15 @@ final class HandsTest {
         c.due("d is let on", c.x.outcome(3), 300);
         c.due("once", c.x.count(8), 1);
         c.due("none WAIT", c.x.count(7), 0);
+        Case d = four("from the first one again", 4);
+        d.x.grab(0, 10, 1);
+        d.x.grab(3, 20, 1);
+        d.x.seek(1, 30, 1);
+        d.due("d for b", d.x.grab(3, 30, 1), -2);
+        d.due("b for a", d.x.scan(1, 100001, 200001), -2);
+        d.x.end(0);
+        d.due("b died", d.x.outcome(1), -3);
+        d.due("d is let on, being ahead of it", d.x.outcome(3), 300);
     }
 
     private static void outcome() {
@@ -466,5 +490,26 @@ final class HandsTest {
         d.x.grab(3, 30, 1);
         d.due("b would DIE, d go on", d.x.wakes(0), 10);
         d.due("none died", d.x.count(8), 0);
+        Case e = new Case("behind trials", "hand a;hand b;hand c;key 10 1 1;open a;open b;grab a 10 1;seek b 9 1;", 8);
+        e.x.run(24);
+        e.x.open(2);
+        e.x.put(2, 8, 1, 5);
+        for (int what = 0; what <= 4; what++) {
+            e.x.tried(what, 0);
+            e.due("put WAITS for b's GAP, too", e.x.wakes(0), 0);
+            e.due("nothing comes", e.x.loses(0), 0);
+            e.due("b's quit lets it come", e.x.loses(1), 5);
+        }
+        Case f = four("with another need", 3);
+        f.x.put(0, 15, 1, 5);
+        f.x.put(2, 15, 1, 6);
+        f.x.seek(1, 12, 1);
+        for (int what = 0; what <= 4; what++) {
+            f.x.tried(what, 0);
+            f.due("c WAITS for b then", f.x.wakes(0), 0);
+            f.due("a's goes", f.x.loses(0), -5);
+        }
+        e.x.swapped(0);
+        e.due("b's quit lets it come", e.x.wakes(1), 4);
     }
 }

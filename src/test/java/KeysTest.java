@@ -41,6 +41,14 @@ final class KeysTest {
         c.due("put by none that is OPEN", c.key(2, 3), -2);
         c.x.open(1);
         c.due("nor when it is OPEN again", c.key(2, 3), -2);
+        c.x.open(0);
+        c.x.put(0, 50, 1, 1);
+        c.x.put(1, 60, 1, 1);
+        c.x.put(0, 70, 1, 1);
+        c.x.quit(0);
+        c.due("goes with its KEY", c.key(c.x.place(60, 1), 3), 1);
+        c.x.quit(1);
+        c.due("all put went", c.x.place(99, 1), 4);
     }
 
     private static void bits() {

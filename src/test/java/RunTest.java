@@ -159,7 +159,7 @@ final class RunTest {
             + "grab b 2 1;grab b 2 1;grab a 2 1;grab b 1 1;", 14);
         d.due("the grab of a", d.x.culprit(), 8);
         Case e = new Case("no such", CROSS + "hand c;hand d;key 3 1 1;key 4 1 2;open c;open d;grab c 3 1;grab d 4 1;"
-            + "grab c 4 1;grab d 3 1;", 22);
+            + "grab c 4 1;grab d 3 1;" + "end c;".repeat(10), 32);
         e.due("none alone", e.x.culprit(), -3);
         Case f = new Case("none", TWO + "open a;grab a 1 1;", 6);
         f.due("none DIES", f.x.culprit(), -2);
@@ -234,6 +234,7 @@ final class RunTest {
         c.due("no such", c.x.fate(5, 3), -5);
         c.due("no such", c.x.fate(5, -1), -5);
         c.due("the seed first", c.x.fate(-1, 3), -1);
+        c.due("seed 0", c.x.fate(0, 3), -5);
         int died = 0;
         int ended = 0;
         for (int seed = 0; seed < 40; seed++) {

@@ -75,6 +75,12 @@ final class TextTest {
         c.due("outcome", c.x.outcome(0), -1);
         c.due("only the first n", c.x.text(c.feedAll("hand a;") * 0), 0);
         c.due("none then", c.x.count(0), 0);
+        c.feedAll("key 1 1 12345;key 2 1 1;");
+        c.due("within a number", c.x.text(11), -1);
+        c.due("more must come", c.x.fault(0) * 100 + c.x.fault(1), 111);
+        c.feedAll("hand abcdefgh;");
+        c.due("within a word", c.x.text(11), -1);
+        c.due("more must come", c.x.fault(0) * 100 + c.x.fault(1), 111);
         c.due("no blanks needed but to part words", c.tell("\n\nhand\na ;key1 1 1;key 002 01 0003;open\n a;"), 4);
         c.due("leading noughts", c.x.place(2, 1), 1);
         c.due("sorted", new Case("order", "key 3 1 3;key 1 1 1;key 2 1 2;", 3).key(1, 1), 2);
