@@ -74,8 +74,6 @@ public final class GapLocks {
         }
         boolean right = reader.readAll(draft, desk.tape, n);
         desk.tapeLength = 0;
-        desk.faultCode = reader.faultCode;
-        desk.faultPlace = reader.faultPlace;
         if (!right) {
             return NONE;
         }
@@ -89,10 +87,11 @@ public final class GapLocks {
     }
 
     public int fault(int what) {
+        // Not of the Desk: which text() was the latest doesn't change by a SNAPSHOT that is put back.
         if (what == 0) {
-            return desk.faultCode;
+            return reader.faultCode;
         }
-        return what == 1 ? desk.faultPlace : NONE;
+        return what == 1 ? reader.faultPlace : NONE;
     }
 
     public int named(int letters) {
@@ -1789,8 +1788,6 @@ public final class GapLocks {
         final Course course = new Course();
         final byte[] tape = new byte[MAX_TAPE];
         int tapeLength;
-        int faultCode;
-        int faultPlace = NONE;
 
         void append(int number) {
             for (int shift = 24; shift >= 0 && tapeLength < MAX_TAPE; shift -= 8) {
@@ -1803,8 +1800,6 @@ public final class GapLocks {
             course.copyFrom(other.course);
             System.arraycopy(other.tape, 0, tape, 0, MAX_TAPE);
             tapeLength = other.tapeLength;
-            faultCode = other.faultCode;
-            faultPlace = other.faultPlace;
         }
     }
 }

@@ -650,7 +650,7 @@ final class Model {
         if (snapshots.size() == 16) {
             return -1;
         }
-        snapshots.add(new Object[] {new ArrayList<>(history), new ArrayList<>(tape), faultCode, faultPlace});
+        snapshots.add(new Object[] {new ArrayList<>(history), new ArrayList<>(tape)});
         return snapshots.size();
     }
 
@@ -663,8 +663,6 @@ final class Model {
         history = (List<Object>) s[0];
         tape.clear();
         tape.addAll((List<Byte>) s[1]);
-        faultCode = (Integer) s[2];
-        faultPlace = (Integer) s[3];
         sim = replay(plan, history);
         return snapshots.size();
     }

@@ -7,6 +7,7 @@ final class SnapshotTest {
         takeAndBack();
         manyKept();
         keepsAll();
+        faultBehindBack();
         counts();
         Case.finish();
     }
@@ -73,10 +74,29 @@ final class SnapshotTest {
         c.due("a FAULT", c.x.fault(0) * 10 + c.x.fault(1), 16);
         c.due("back", c.x.back(), 0);
         c.due("died none", c.x.count(8), 0);
-        c.due("the fault, too", c.x.fault(0) * 10 + c.x.fault(1), -1);
+        c.due("the FAULT is of the latest text()", c.x.fault(0) * 10 + c.x.fault(1), 16);
         c.due("the tape, too", c.x.feed(0, 0, 0, 0, 0), 40);
         c.due("outcome", c.x.outcome(0), -1);
         c.due("same is of the TEXT", c.x.same(), c.x.same());
+    }
+
+    /** fault() is of the latest text() that was not -2, whatever SNAPSHOTS are put back. */
+    private static void faultBehindBack() {
+        Case c = new Case("fault behind back");
+        c.x.take();
+        c.faulty("hand a;open b;", 4, 12);
+        c.x.take();
+        c.faulty("hand a;hand a;", 3, 12);
+        c.due("-2 is not looked at", c.x.text(1), -2);
+        c.due("back", c.x.back(), 1);
+        c.due("fault", c.x.fault(0) * 100 + c.x.fault(1), 312);
+        c.due("back", c.x.back(), 0);
+        c.due("fault", c.x.fault(0) * 100 + c.x.fault(1), 312);
+        c.due("no such what", c.x.fault(2), -1);
+        c.due("a right text", c.tell(TEXT), 12);
+        c.x.take();
+        c.x.back();
+        c.due("no FAULT", c.x.fault(0) * 10 + c.x.fault(1), -1);
     }
 
     private static void counts() {
