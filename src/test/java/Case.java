@@ -62,6 +62,49 @@ final class Case {
         }
     }
 
+    /** Which class key() throws, by its own name (those of the machine are others); nothing, if it answers. */
+    String thrownByKey(int place, int what) {
+        try {
+            x.key(place, what);
+            return "nothing";
+        } catch (RuntimeException e) {
+            return e.getClass().getSimpleName();
+        }
+    }
+
+    void due(String what, String got, String want) {
+        due(what + " (" + got + ", due is " + want + ")", got.equals(want) ? 1 : 0, 1);
+    }
+
+    /** All that can be asked without changing anything, for a TEXT of few KEYS, to see that all stays. */
+    String all() {
+        StringBuilder s = new StringBuilder();
+        for (int what = 0; what < 12; what++) {
+            s.append("count").append(what).append('=').append(x.count(what)).append(' ');
+        }
+        for (int place = 0; place < x.count(1); place++) {
+            for (int what = 0; what < 4; what++) {
+                s.append("key").append(place).append('/').append(what).append('=').append(x.key(place, what)).append(' ');
+            }
+        }
+        for (int hand = 0; hand < x.count(0); hand++) {
+            for (int what = 0; what < 5; what++) {
+                s.append("hand").append(hand).append('/').append(what).append('=').append(x.hand(hand, what)).append(' ');
+            }
+            s.append("outcome").append(hand).append('=').append(x.outcome(hand)).append(' ');
+            for (int k = 0; k < x.hand(hand, 2); k++) {
+                s.append("held").append(hand).append('/').append(k).append('=').append(x.held(hand, k)).append(' ');
+            }
+        }
+        for (int k = 0; k < x.count(7); k++) {
+            s.append("queue").append(k).append('=').append(x.queue(k)).append(' ');
+        }
+        for (int step = 0; step < x.count(2); step++) {
+            s.append("answer").append(step).append('=').append(x.answer(step)).append(' ');
+        }
+        return s.append("free=").append(x.free()).toString();
+    }
+
     static final long NO_PLACE = Long.MIN_VALUE;
     static final long NO_WHAT = Long.MIN_VALUE + 1;
 
