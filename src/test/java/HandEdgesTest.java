@@ -646,6 +646,26 @@ final class HandEdgesTest {
         c.x.set(0, 20, 1, 10);
         c.x.quit(0);
         c.due("only since it is OPEN", c.key(1, 1), 9);
+        changesOfTwo();
+    }
+
+    /** What one HAND changed goes with its end, in whatever order HANDS changed and ended. */
+    private static void changesOfTwo() {
+        Case c = four("changes of two", 2);
+        c.x.set(0, 10, 1, 1);
+        c.x.set(1, 20, 1, 2);
+        c.x.set(0, 10, 1, 3);
+        c.x.set(1, 20, 1, 4);
+        c.due("two each", c.x.hand(0, 4) * 10 + c.x.hand(1, 4), 22);
+        c.x.end(1);
+        c.due("a's stay", c.x.hand(0, 4), 2);
+        c.x.end(0);
+        c.x.open(0);
+        c.x.open(1);
+        c.due("none of before", c.x.hand(0, 4) + c.x.hand(1, 4), 0);
+        c.x.quit(0);
+        c.x.quit(1);
+        c.due("nothing is undone", c.x.count(9), 3 + 4 + 300);
     }
 
     /** "quit (of one that WAITS, too) .. its LOCKS go, it WAITS no more" */
@@ -855,6 +875,13 @@ final class HandEdgesTest {
         e.due("b comes to WAIT for d", e.x.wakes(0), 4);
         e.x.tried(1, 0);
         e.due("and again", e.x.wakes(0), 4);
+        Case g = new Case("five HANDS", "hand a;hand b;hand c;hand d;hand e;key 1 1 1;", 6);
+        for (int i = 0; i < 5; i++) {
+            g.x.open(i);
+            g.x.grab(i, 1, 1);
+        }
+        g.due("the first of four", g.x.wakes(0), 2);
+        g.due("the last wakes none", g.x.wakes(4), 0);
         Case f = new Case("one HAND", "hand a;", 1);
         f.x.open(0);
         f.due("none", f.x.wakes(0), 0);

@@ -213,6 +213,7 @@ final class RunEdgesTest {
         d.due("all stays", d.all(), before);
         d.due("KEYS, not only VALUES", new Case("KEYS", "hand a;hand b;key 1 1 4;open a;cut a 1 1;put a 2 1 4;end a;open b;"
             + "set b 1 1 4;end b;", 10).x.same(), 2);
+        d.due("all put and undone", new Case("undone", "hand a;hand b;open a;put a 5 1 1;quit a;open b;put b 6 1 1;quit b;", 8).x.same(), 2);
         d.due("fewer KEYS", new Case("KEYS", "hand a;hand b;open a;put a 2 1 4;end a;open b;cut b 2 1;end b;", 8).x.same(), 1);
     }
 
@@ -531,6 +532,11 @@ final class RunEdgesTest {
         d.due("b's, too", d.x.fate(0, 1), 0);
         d.due("c has none", d.x.fate(0, 2), -1);
         d.due("nothing is done by it", d.x.outcome(0), -1);
+        StringBuilder s = new StringBuilder("hand a;key 1 1 5;open a;");
+        for (int i = 1; i <= 23; i++) {
+            s.append("set a 1 1 ").append(i).append(';');
+        }
+        d.due("all 24 STEPS are done", new Case("24 STEPS", s.toString(), 26).x.fate(0, 0), 22);
         Case e = new Case("WAITS at its end", "hand a;hand b;key 1 1 7;open a;grab a 1 1;open b;grab b 1 1;", 7);
         for (int seed = 0; seed < 10; seed++) {
             int a = e.x.fate(seed, 0);
